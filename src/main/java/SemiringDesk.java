@@ -200,7 +200,6 @@ public final class SemiringDesk {
         for (int i = 0; i < graph.rows; i++) {
             gather(result, i, i, 0, LEAST_PLUS);
         }
-        requireNoCircleBelowZero(result);
         for (int over = 0; over < graph.rows; over++) {
             shortenOver(result, over);
             // Looked at in every round: once there is such a circle the sums could grow

@@ -83,6 +83,11 @@ public final class MultiplyTest {
             Grid.write(x, 2, "5 0");
             gives(x, k, -1, 2, wants[k]);
         }
+        Grid.write(x, 3, ". .");
+        for (int k = 0; k < 4; k++) {
+            Grid.write(x, 2, "5 0");
+            gives(x, k, 3, 2, k % 2 == 0 ? "5 ." : "5 0");
+        }
         Grid.write(x, 0, ". .");
         for (int k = 0; k < 4; k++) {
             Grid.write(x, 2, "5 0");

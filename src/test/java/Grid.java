@@ -1,3 +1,4 @@
+import java.util.Collections;
 import java.util.NoSuchElementException;
 
 /** Writes and reads a register as a text: rows parted by "/", values by " ", "." for no entry. */
@@ -45,6 +46,21 @@ final class Grid {
             text.append(r == 0 ? "" : " | ").append(read(desk, r));
         }
         return text.toString();
+    }
+
+    /** The text of a matrix with the same in every place ("." for no entry). */
+    static String even(int rows, int columns, String cell) {
+        String row = String.join(" ", Collections.nCopies(columns, cell));
+        return String.join(" / ", Collections.nCopies(rows, row));
+    }
+
+    /** The text with another cell at one place. */
+    static String with(String text, int i, int j, String cell) {
+        String[] rows = text.split(" / ");
+        String[] cells = cells(rows[i]);
+        cells[j] = cell;
+        rows[i] = String.join(" ", cells);
+        return String.join(" / ", rows);
     }
 
     private static String[] cells(String row) {

@@ -1,4 +1,3 @@
-import java.util.Arrays;
 import java.util.function.LongSupplier;
 
 /** All promises: long runs of mixed calls, right and wrong ones, against the Model. */
@@ -43,8 +42,8 @@ public final class ModelTest {
             int[] n = numbers(kind, side);
             long v = value(largeIn);
             String want = outcome(() -> model.call(kind, n, v));
-            String got = outcome(() -> call(desk, kind, n, v));
-            String call = NAMES[kind] + Arrays.toString(Arrays.copyOf(n, PARAMETERS[kind])) + " " + v;
+            String call = text(kind, n, v);
+            String got = Call.outcome(desk, call);
             story.append(call).append(" = ").append(want).append('\n');
             due.is("desk " + number + " call " + c + " " + call, got, want);
             if (!got.equals(want)) {
@@ -100,31 +99,22 @@ public final class ModelTest {
         return below(5) == 0 ? below(9) - 4 : below(20);
     }
 
+    private static String text(int kind, int[] n, long v) {
+        StringBuilder text = new StringBuilder(NAMES[kind]);
+        for (int p = 0; p < PARAMETERS[kind]; p++) {
+            text.append(' ').append(n[p]);
+        }
+        if (NAMES[kind].equals("put") || NAMES[kind].equals("select")) {
+            text.append(' ').append(v);
+        }
+        return text.toString();
+    }
+
     private static String outcome(LongSupplier call) {
         try {
             return String.valueOf(call.getAsLong());
         } catch (RuntimeException e) {
             return e.getClass().getName();
-        }
-    }
-
-    private static long call(SemiringDesk x, int kind, int[] n, long v) {
-        switch (kind) {
-            case 0: x.shape(n[0], n[1], n[2]); return 0;
-            case 1: x.put(n[0], n[1], n[2], v); return 0;
-            case 2: return x.drop(n[0], n[1], n[2]) ? 1 : 0;
-            case 3: return x.at(n[0], n[1], n[2]);
-            case 4: return x.size(n[0]);
-            case 5: return x.multiply(n[0], n[1], n[2], n[3], n[4], n[5]);
-            case 6: return x.add(n[0], n[1], n[2], n[3]);
-            case 7: return x.each(n[0], n[1], n[2], n[3]);
-            case 8: return x.transpose(n[0], n[1]);
-            case 9: return x.select(n[0], n[1], n[2], v);
-            case 10: return x.reduce(n[0], n[1]);
-            case 11: return x.levels(n[0], n[1], n[2]);
-            case 12: return x.paths(n[0], n[1]);
-            case 13: return x.triangles(n[0]);
-            default: return x.components(n[0], n[1]);
         }
     }
 

@@ -215,7 +215,8 @@ public final class GraphsBoundsTest {
         new Scene(due, Grid.with(row("1"), 7, 0, "-8")).refuses(NONE, "paths 5 0");
         new Scene(due, Grid.with(row("1"), 7, 0, "-8")).refuses(NONE, "paths 0 0");
         new Scene(due, Grid.with(row("-1"), 7, 0, "6")).refuses(NONE, "paths 5 0");
-        due.is("a circle of -7 and 7", Call.outcome(new Scene(due, Grid.with(row("-1"), 7, 0, "7")).desk(), "paths 5 0"), "64");
+        SemiringDesk back = new Scene(due, Grid.with(row("-1"), 7, 0, "7")).desk();
+        due.is("a circle of -7 and 7", Call.outcome(back, "paths 5 0"), "64");
     }
 
     // The same sentence: wherever the circle is, also if no other vertex comes to it

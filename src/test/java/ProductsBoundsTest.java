@@ -170,7 +170,8 @@ public final class ProductsBoundsTest {
         int[][] others = {{1, 3}, {3, 3}, {2, 2}, {2, 4}, {3, 2}, {1, 1}, {8, 8}, {2, 8}};
         for (int how = 0; how < 4; how++) {
             for (int[] other : others) {
-                Scene s = new Scene(due, "1 1 / 1 1", "1 1 1 / 1 1 1", "1 1 1 / 1 1 1", Grid.even(other[0], other[1], "1"));
+                Scene s = new Scene(due, "1 1 / 1 1", "1 1 1 / 1 1 1", "1 1 1 / 1 1 1",
+                        Grid.even(other[0], other[1], "1"));
                 s.refuses(STATE, "multiply 2 0 1 0 3 " + how);
                 s.refuses(STATE, "multiply 5 0 1 0 3 " + how);
             }

@@ -307,7 +307,8 @@ public final class TermsBoundsTest {
             s.answers("reduce 4 0", Long.parseLong(near));
             s.gives("each 5 0 1 1", 1, 5, most);
             s.refuses(RANGE, "each 5 2 1 1");
-            Scene m = new Scene(due, most + " " + one + " " + back, near + " " + one + " " + back, "1 / 1 / 1", one, near);
+            Scene m = new Scene(due, most + " " + one + " " + back, near + " " + one + " " + back, "1 / 1 / 1",
+                    one, near);
             m.refuses(RANGE, "multiply 5 0 2 0 -1 0");
             m.gives("multiply 5 1 2 0 -1 0", 1, 5, near);
             m.gives("multiply 5 3 4 1 -1 0", 1, 5, most);
@@ -405,7 +406,9 @@ public final class TermsBoundsTest {
         due.is("paths refused", Call.outcome(x, "paths 2 2"), RANGE.getName());
         due.is("add after refused calls", Call.outcome(x, "add 3 0 0 0"), "16");
         due.is("add after refused calls", Grid.read(x, 3), Grid.even(4, 4, "4"));
-        due.is("the others after refused calls", Grid.read(x, 0) + Grid.read(x, 1) + Grid.read(x, 2), twos + last + last);
+        due.is("0 after refused calls", Grid.read(x, 0), twos);
+        due.is("1 after refused calls", Grid.read(x, 1), last);
+        due.is("2 after refused calls", Grid.read(x, 2), last);
     }
 
     // "An object is used for at most 512 calls after it has been made"

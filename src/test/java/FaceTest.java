@@ -5,24 +5,31 @@ import java.lang.reflect.Modifier;
 import java.util.Set;
 import java.util.TreeSet;
 
-/** The public face, and rule 1 of LANGUAGE.md: nothing else can be seen from outside. */
+/**
+ * The public face, with the exceptions that each call names, in their order; and rule 1 of
+ * LANGUAGE.md: nothing else can be seen from outside.
+ */
 public final class FaceTest {
+    private static final String ARGUMENT = " IllegalArgumentException";
+    private static final String STATE = " IllegalStateException";
+    private static final String RANGE = " UnsupportedOperationException";
+    private static final String NONE = " NoSuchElementException";
     private static final String[] FACE = {
-        "void shape(int,int,int)",
-        "void put(int,int,int,long)",
-        "boolean drop(int,int,int)",
-        "long at(int,int,int)",
-        "int size(int)",
-        "int multiply(int,int,int,int,int,int)",
-        "int add(int,int,int,int)",
-        "int each(int,int,int,int)",
-        "int transpose(int,int)",
-        "int select(int,int,int,long)",
-        "long reduce(int,int)",
-        "int levels(int,int,int)",
-        "int paths(int,int)",
-        "int triangles(int)",
-        "int components(int,int)",
+        "void shape(int,int,int)" + ARGUMENT,
+        "void put(int,int,int,long)" + ARGUMENT,
+        "boolean drop(int,int,int)" + ARGUMENT,
+        "long at(int,int,int)" + ARGUMENT + NONE,
+        "int size(int)" + ARGUMENT,
+        "int multiply(int,int,int,int,int,int)" + ARGUMENT + STATE + RANGE,
+        "int add(int,int,int,int)" + ARGUMENT + STATE + RANGE,
+        "int each(int,int,int,int)" + ARGUMENT + STATE + RANGE,
+        "int transpose(int,int)" + ARGUMENT,
+        "int select(int,int,int,long)" + ARGUMENT,
+        "long reduce(int,int)" + ARGUMENT + NONE + RANGE,
+        "int levels(int,int,int)" + ARGUMENT + STATE + NONE,
+        "int paths(int,int)" + ARGUMENT + STATE + RANGE + NONE,
+        "int triangles(int)" + ARGUMENT + STATE,
+        "int components(int,int)" + ARGUMENT + STATE,
     };
 
     public static void main(String[] args) {
@@ -49,6 +56,10 @@ public final class FaceTest {
             due.is(f + " is final if it is static",
                     !Modifier.isStatic(f.getModifiers()) || Modifier.isFinal(f.getModifiers()), true);
         }
+        for (Class<?> c : SemiringDesk.class.getDeclaredClasses()) {
+            due.is(c + " is static", Modifier.isStatic(c.getModifiers()), true);
+            due.is(c + " can't be seen", c.getModifiers() & (Modifier.PUBLIC | Modifier.PROTECTED), 0);
+        }
         Constructor<?>[] constructors = SemiringDesk.class.getDeclaredConstructors();
         due.is("how many constructors", constructors.length, 1);
         due.is("the constructor", constructors[0].toString(), "public SemiringDesk()");
@@ -61,6 +72,10 @@ public final class FaceTest {
         for (int p = 0; p < m.getParameterCount(); p++) {
             text.append(p == 0 ? "" : ",").append(m.getParameterTypes()[p]);
         }
-        return text.append(')').toString();
+        text.append(')');
+        for (Class<?> thrown : m.getExceptionTypes()) {
+            text.append(' ').append(thrown.getSimpleName());
+        }
+        return text.toString();
     }
 }
